@@ -8,6 +8,7 @@ final class PlateTest {
         newObject();
         plate();
         anotherPlate();
+        plateWhileItMoves();
         request();
         twelveRequests();
         cancel();
@@ -86,6 +87,23 @@ final class PlateTest {
         Due.armDue(x, "old plate again", 3, 0, 19, 1, 2, 0);
         Due.loggedDue(x, 0, 0, 0, 0, 0, 0);
         Due.requestDue(x, 4, 0, 1, 99, 5, 3, 0);
+    }
+
+    private static void plateWhileItMoves() {
+        PlateArm x = new PlateArm();
+        x.set(1, 20);
+        x.set(2, 5);
+        x.request(0, 1, 0);
+        x.pass(2);
+        x.request(9, 0, 99);
+        x.pass(3);
+        Due.armDue(x, "moves", 3, 1, 1, 0, 1, 5);
+        Due.due("late", x.whole(10), 1);
+        x.plate(12, 6);
+        Due.armDue(x, "another plate", 0, 0, 0, 0, 1, 0);
+        Due.wholeDue(x, "another plate", 12, 6, 0, 20, 5, 0, 0, 0, 0, 0, 0, 0, 0, 0, 0, 0, 0, 0);
+        Due.due("request(0, 0, 0)", x.request(0, 0, 0), 0);
+        Due.due("pass(1)", x.pass(1), 1);
     }
 
     private static void request() {

@@ -93,6 +93,12 @@ final class TextTest {
         faultDue("cancel 0 0;", 9);
         faultDue("plate 4 3 2;", 10);
         faultDue("plate 4;", 7);
+        faultDue("xlate 4 3;", 0);
+        faultDue("platx 4 3;", 0);
+        faultDue("setz 0 1;", 0);
+        faultDue("z", 0);
+        faultDue("aset 0 1;", 0);
+        faultDue("set 0 1;\u0001", 8);
         faultDue("request 0 0 0;", 0);
         faultDue("set 0 1\u0000", 7);
         faultDue("\u007fset 0 1;", 0);

@@ -7,8 +7,10 @@ final class WhatIfTest {
         target();
         readIn();
         readInOfTwelve();
+        readInThe500thTick();
         finishBy();
         finishByIsFinish(some());
+        finishByIsFinish(someLate());
         finishByIsFinish(PlateTest.moreThan500());
         bestWay();
         heatIn();
@@ -33,6 +35,17 @@ final class WhatIfTest {
         x.request(2, 5, 21);
         x.request(7, 0, 60);
         x.request(3, 0, 20);
+        return x;
+    }
+
+    private static PlateArm someLate() {
+        PlateArm x = some();
+        for (int i = 0; i < 20; i++) {
+            x.pass(2);
+        }
+        Due.due("late", x.whole(10) > 0 && x.whole(7) > 0 ? 1 : 0, 1);
+        x.request(1, 2, 3);
+        x.request(11, 4, 60);
         return x;
     }
 
@@ -102,6 +115,29 @@ final class WhatIfTest {
             int gone = i;
             Due.throwsDue(INDEX, "readIn(" + i + ")", () -> x.readIn(gone));
         }
+    }
+
+    private static void readInThe500thTick() {
+        PlateArm x = PlateTest.moreThan500();
+        PlateArm y = PlateTest.moreThan500();
+        while (y.whole(7) > 0) {
+            y.pass(1);
+        }
+        int read = y.whole(6) - 1;
+        Due.due("the last one", y.logged(0, 0), 20);
+        Due.due("in more than 500 ticks", read - x.whole(6) > 501 ? 1 : 0, 1);
+        while (x.whole(6) < read - 500) {
+            Due.due("readIn(20) at " + x.whole(6), x.readIn(20), -1);
+            x.pass(1);
+        }
+        Due.due("readIn(20), in the 501st tick", x.readIn(20), -1);
+        Due.due("finishBy(0, 0), one is left", x.finishBy(0, 0), 500);
+        Due.due("finishBy(0, 1), one is left", x.finishBy(0, 1), x.whole(7) - 1);
+        x.pass(1);
+        Due.due("readIn(20), in the 500th tick", x.readIn(20), read);
+        Due.due("finishBy(0, 1), none is left", x.finishBy(0, 1), x.whole(7));
+        Due.due("finish()", x.finish(), 500);
+        Due.due("none is left", x.whole(7), 0);
     }
 
     private static void finishBy() {
@@ -214,14 +250,19 @@ final class WhatIfTest {
         Due.due("widest() of one", x.widest(), 0);
         x.request(7, 3, 9);
         Due.due("widest() of one track", x.widest(), 0);
+        x.cancel(0);
+        x.request(9, 0, 9);
+        Due.due("widest() of two", x.widest(), 2);
+        x.cancel(2);
+        x.request(7, 0, 9);
         x.request(4, 0, 9);
         Due.due("widest() below", x.widest(), 3);
         x.request(11, 0, 9);
         Due.due("widest() on both sides", x.widest(), 7);
         x.request(0, 0, 9);
         Due.due("widest() of the plate", x.widest(), 11);
+        x.cancel(6);
         x.cancel(4);
-        x.cancel(2);
         Due.due("widest() again", x.widest(), 4);
     }
 
