@@ -6,24 +6,33 @@ final class Due {
 
     private static int checked = 0;
     private static int wrong = 0;
+    private static String sentence = "";
 
     private Due() {
+    }
+
+    /** Tells by which words of the document the answers from here on are due. */
+    static void sentence(String place, String words) {
+        sentence = place + ", '" + words + "': ";
     }
 
     static void due(String call, long got, long want) {
         checked++;
         if (got != want) {
-            wrong++;
-            System.out.println(call + " answered " + got + ", due is " + want);
+            tellWrong(call, Long.toString(got), Long.toString(want));
         }
     }
 
     static void due(String call, String got, String want) {
         checked++;
         if (!got.equals(want)) {
-            wrong++;
-            System.out.println(call + " answered " + got + ", due is " + want);
+            tellWrong(call, got, want);
         }
+    }
+
+    private static void tellWrong(String call, String got, String want) {
+        wrong++;
+        System.out.println(sentence + call + " answered " + got + ", due is " + want);
     }
 
     /** The exception must be of the very class: the machine's own are of classes below it. */
@@ -67,6 +76,17 @@ final class Due {
     static void loggedDue(PlateArm x, int back, int... wants) {
         for (int what = 0; what < wants.length; what++) {
             due("logged(" + back + ", " + what + ")", x.logged(back, what), wants[what]);
+        }
+    }
+
+    /** Lets ticks pass until it is this tick. */
+    static void passTo(PlateArm x, int tick) {
+        int left = tick - x.whole(6);
+        for (; left > 99; left -= 99) {
+            x.pass(99);
+        }
+        if (left > 0) {
+            x.pass(left);
         }
     }
 

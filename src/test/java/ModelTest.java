@@ -4,7 +4,9 @@ import java.util.List;
 /** Long runs of mixed calls: the program and the model must answer alike, exceptions too. */
 final class ModelTest {
     private static final int RUNS = 1500;
-    private static final int CALLS = 500;
+    /** The document promises nothing behind them. */
+    private static final int CALLS = 512;
+    private static final int CALLS_OF_A_TEXT = 153;
     private static final String[] NAMES = {"plate", "request", "cancel", "set", "pass", "finish",
         "requestOf", "requestAt", "logged", "arm", "whole", "target", "readIn", "finishBy", "bestWay",
         "heatIn", "widest", "reason", "type", "clearCommands", "runCommands", "undo", "digest"};
@@ -45,7 +47,7 @@ final class ModelTest {
             goFar(x, model, calls, run);
         }
         while (calls.size() < CALLS) {
-            if (next(40) == 0) {
+            if (next(40) == 0 && calls.size() + CALLS_OF_A_TEXT <= CALLS) {
                 typeText(x, model, calls, run);
             } else {
                 String name = pick();

@@ -120,12 +120,13 @@ final class WhatIfTest {
     private static void readInThe500thTick() {
         PlateArm x = PlateTest.moreThan500();
         PlateArm y = PlateTest.moreThan500();
-        while (y.whole(7) > 0) {
-            y.pass(1);
+        for (int i = 0; i < 30 && y.whole(7) > 0; i++) {
+            y.pass(30);
         }
-        int read = y.whole(6) - 1;
+        int read = y.logged(0, 3);
         Due.due("the last one", y.logged(0, 0), 20);
         Due.due("in more than 500 ticks", read - x.whole(6) > 501 ? 1 : 0, 1);
+        Due.passTo(x, read - 510);
         while (x.whole(6) < read - 500) {
             Due.due("readIn(20) at " + x.whole(6), x.readIn(20), -1);
             x.pass(1);
