@@ -8,6 +8,10 @@ final class EdgeWhatIfTest {
     /** The last request of EdgeCallsTest.longTrips(). */
     private static final int LAST = 17;
 
+    private interface Question {
+        long answer(PlateArm x, int request);
+    }
+
     public static void main(String[] args) {
         targetRange();
         targetOfNone();
@@ -66,12 +70,13 @@ final class EdgeWhatIfTest {
         }
     }
 
-    private static void readInOfNone() {
-        Due.sentence("Promise 14", "Throws IndexOutOfBoundsException if there is no such request (it was "
-                + "read, cancelled, or given up)");
+    /** A question about a request: of 0, which is read, 1, cancelled, 2, given up, and 3, which is left. */
+    private static void goneDue(String promise, String name, Question asked, long ofTheOneLeft) {
+        Due.sentence(promise, "Throws IndexOutOfBoundsException if there is no such request (it was read, "
+                + "cancelled, or given up)");
         PlateArm x = new PlateArm();
         for (int request : new int[] {0, -1, 1, MIN, MAX}) {
-            Due.refused(x, INDEX, "readIn(" + request + ") of none", () -> x.readIn(request));
+            Due.refused(x, INDEX, name + "(" + request + ") of none", () -> asked.answer(x, request));
         }
         x.set(3, 1);
         x.request(0, 0, 0);
@@ -81,9 +86,13 @@ final class EdgeWhatIfTest {
         x.cancel(1);
         x.pass(3);
         for (int request : new int[] {-1, 0, 1, 2, 4, MIN, MAX}) {
-            Due.refused(x, INDEX, "readIn(" + request + ")", () -> x.readIn(request));
+            Due.refused(x, INDEX, name + "(" + request + ")", () -> asked.answer(x, request));
         }
-        Due.due("readIn(3)", x.readIn(3), 4);
+        Due.due(name + "(3)", asked.answer(x, 3), ofTheOneLeft);
+    }
+
+    private static void readInOfNone() {
+        goneDue("Promise 14", "readIn", (x, request) -> x.readIn(request), 4);
     }
 
     private static void readInThisTick() {
@@ -368,23 +377,7 @@ final class EdgeWhatIfTest {
     }
 
     private static void reasonOfNone() {
-        Due.sentence("Promise 19", "Throws IndexOutOfBoundsException if there is no such request (it was "
-                + "read, cancelled, or given up)");
-        PlateArm x = new PlateArm();
-        for (int request : new int[] {0, -1, 1, MIN, MAX}) {
-            Due.refused(x, INDEX, "reason(" + request + ") of none", () -> x.reason(request));
-        }
-        x.set(3, 1);
-        x.request(0, 0, 0);
-        x.request(0, 1, FAR);
-        x.request(0, 5, 0);
-        x.request(0, 4, FAR);
-        x.cancel(1);
-        x.pass(3);
-        for (int request : new int[] {-1, 0, 1, 2, 4, MIN, MAX}) {
-            Due.refused(x, INDEX, "reason(" + request + ")", () -> x.reason(request));
-        }
-        Due.due("reason(3)", x.reason(3), 4);
+        goneDue("Promise 19", "reason", (x, request) -> x.reason(request), 4);
     }
 
     private static void reasonNothing() {
